@@ -45,15 +45,8 @@ public final class TwentyPushes {
     // ---- children, swings
 
     public int child(int wl, int queue) {
-        int weight = wl / 10;
-        int legs = wl % 10;
-        if (wl < 0 || !numbers.mayCome(weight, legs, queue)) {
-            return BAD;
-        }
-        if (numbers.children >= CHILDREN_MOST) {
-            return FULL;
-        }
-        return numbers.welcome(weight, legs, queue);
+        // below 0 wl has no WEIGHT either
+        return numbers.welcome(wl / 10, wl % 10, queue);
     }
 
     public int children(int shelf, int i, int n) {
@@ -68,17 +61,14 @@ public final class TwentyPushes {
             return refusal;
         }
         int came = 0;
-        int at = i;
-        while (came < n && numbers.children < CHILDREN_MOST && shelves.hasPlaces(shelf, at, 3)) {
+        for (int at = i; came < n && shelves.hasPlaces(shelf, at, 3); at += 3) {
             int weight = (int) shelves.elementAt(shelf, at);
             int legs = (int) shelves.elementAt(shelf, at + 1);
             int queue = (int) shelves.elementAt(shelf, at + 2);
-            if (!numbers.mayCome(weight, legs, queue)) {
+            if (numbers.welcome(weight, legs, queue) < 0) {
                 break;
             }
-            numbers.welcome(weight, legs, queue);
             came++;
-            at += 3;
         }
         return came;
     }
@@ -679,12 +669,14 @@ public final class TwentyPushes {
             return values[own + FRIEND] == child ? SLOWLY : values[own + BENT];
         }
 
-        boolean mayCome(int weight, int legs, int queue) {
-            return isWithin(WEIGHT, weight) && isWithin(LEGS, legs) && isWithin(QUEUE, queue);
-        }
-
-        /** The caller has seen to it that there is a place left. */
+        /** The new CHILD's number; BAD or FULL. */
         int welcome(int weight, int legs, int queue) {
+            if (!isWithin(WEIGHT, weight) || !isWithin(LEGS, legs) || !isWithin(QUEUE, queue)) {
+                return BAD;
+            }
+            if (children >= CHILDREN_MOST) {
+                return FULL;
+            }
             int number = children;
             children++;
             setAt(placeOf(number, WEIGHT), weight);
