@@ -116,7 +116,7 @@ public final class TwentyPushes {
             case 2:
                 return t.top;
             default:
-                return t.counted;
+                return play.countedOf(t);
         }
     }
 
@@ -421,7 +421,7 @@ public final class TwentyPushes {
             case 6:
                 return deed.busy ? deed.turn.rounds : STATE;
             case 7:
-                return deed.busy ? deed.turn.counted : STATE;
+                return deed.busy ? play.countedOf(deed.turn) : STATE;
             default:
                 return BAD;
         }
@@ -1007,7 +1007,7 @@ public final class TwentyPushes {
     /** A TURN so far. */
     private static final class Turn {
         int swing, child, told;
-        int rounds, seconds, height, top, counted, latest;
+        int rounds, seconds, height, top, latest;
 
         Turn() {
         }
@@ -1020,7 +1020,6 @@ public final class TwentyPushes {
             seconds = 0;
             height = 0;
             top = 0;
-            counted = 0;
             latest = 0;
         }
 
@@ -1030,7 +1029,6 @@ public final class TwentyPushes {
             seconds = other.seconds;
             height = other.height;
             top = other.top;
-            counted = other.counted;
             latest = other.latest;
         }
     }
@@ -1057,17 +1055,18 @@ public final class TwentyPushes {
             t.rounds++;
             t.seconds += t.latest;
             t.top = Math.max(t.top, t.height);
-            t.counted = countedBehind(t.rounds, numbers.bentFor(t.told, t.child), t.counted);
         }
 
-        private static int countedBehind(int n, int bent, int before) {
-            switch (bent) {
+        /** Never kept, since the one who counts may be mended within the TURN: it is told by the BENT of now. */
+        int countedOf(Turn t) {
+            int n = t.rounds;
+            switch (numbers.bentFor(t.told, t.child)) {
                 case SLOWLY:
                     return n - n / 3;
                 case QUICKLY:
                     return n + n / 4;
                 case BY_TENS:
-                    return n % 10 == 0 ? n : before;
+                    return n - n % 10;
                 default:
                     return n;
             }
@@ -1075,7 +1074,7 @@ public final class TwentyPushes {
 
         boolean isOver(Turn t) {
             int seconds = numbers.valueOf(0, SECONDS);
-            return t.counted >= numbers.valueOf(0, PUSHES) || (seconds > 0 && t.seconds >= seconds)
+            return countedOf(t) >= numbers.valueOf(0, PUSHES) || (seconds > 0 && t.seconds >= seconds)
                     || t.rounds >= ROUNDS_MOST;
         }
 

@@ -736,9 +736,12 @@ public final class ModelTest {
             return worth < 1 ? 1 : worth > 20 ? 20 : worth;
         }
 
-        int counted(int n, int who, int child, int before) {
+        int counted(int n, int who, int child) {
             int bent = who == 9 ? 0 : children.get(who)[4] == child ? 1 : children.get(who)[3];
-            int[] ways = {n, n - n / 3, n + n / 4, n % 10 == 0 ? n : before};
+            if (bent == 3) {
+                return n == 0 || n % 10 == 0 ? n : counted(n - 1, who, child);
+            }
+            int[] ways = {n, n - n / 3, n + n / 4};
             return ways[bent];
         }
 
@@ -752,7 +755,7 @@ public final class ModelTest {
                 n++;
                 seconds += lasts;
                 top = Math.max(top, height);
-                counted = counted(n, who, child, counted);
+                counted = counted(n, who, child);
             } while (n < 60 && counted < rules[1] && !(rules[2] > 0 && seconds >= rules[2]));
             return new int[] {n, seconds, top, counted};
         }
@@ -1092,9 +1095,9 @@ public final class ModelTest {
             return bits;
         }
 
-        // ---- in deed: swing (-1: nobody), child, who, rounds, seconds, height, counted; then LED
+        // ---- in deed: swing (-1: nobody), child, who, rounds, seconds, height; then LED
 
-        private int[] deed = {-1, 0, 0, 0, 0, 0, 0, 0, 0, 0, 0, 0, NOT};
+        private int[] deed = {-1, 0, 0, 0, 0, 0, 0, 0, 0, 0, 0, NOT};
         private int[] image = null;
 
         int on(int sc) {
@@ -1104,8 +1107,8 @@ public final class ModelTest {
             if (deed[0] >= 0) {
                 return STATE;
             }
-            int[] fresh = {sc / 100, sc / 10 % 10, sc % 10, 0, 0, 0, 0};
-            System.arraycopy(fresh, 0, deed, 0, 7);
+            int[] fresh = {sc / 100, sc / 10 % 10, sc % 10, 0, 0, 0};
+            System.arraycopy(fresh, 0, deed, 0, 6);
             return deed[1];
         }
 
@@ -1119,16 +1122,16 @@ public final class ModelTest {
             int lasts = lasts(deed[5], swing, child, deed[3], waiting);
             deed[3]++;
             deed[4] += lasts;
-            deed[6] = counted(deed[3], deed[2], child, deed[6]);
-            deed[8]++;
-            deed[9] += lasts;
-            if (deed[5] > deed[11]) {
-                deed[11] = deed[5];
-                deed[12] = child;
+            deed[7]++;
+            deed[8] += lasts;
+            if (deed[5] > deed[10]) {
+                deed[10] = deed[5];
+                deed[11] = child;
             }
-            if (deed[6] >= rules[1] || (rules[2] > 0 && deed[4] >= rules[2]) || deed[3] == 60) {
+            boolean counted = counted(deed[3], deed[2], child) >= rules[1];
+            if (counted || (rules[2] > 0 && deed[4] >= rules[2]) || deed[3] == 60) {
                 deed[0] = -1;
-                deed[7]++;
+                deed[6]++;
             }
             return lasts;
         }
@@ -1138,7 +1141,7 @@ public final class ModelTest {
                 return STATE;
             }
             deed[0] = -1;
-            deed[10]++;
+            deed[9]++;
             return deed[3];
         }
 
@@ -1147,14 +1150,14 @@ public final class ModelTest {
                 return BAD;
             }
             if (what < 6) {
-                return deed[7 + what];
+                return deed[6 + what];
             }
-            return deed[0] < 0 ? STATE : what == 6 ? deed[3] : deed[6];
+            return deed[0] < 0 ? STATE : what == 6 ? deed[3] : counted(deed[3], deed[2], deed[1]);
         }
 
         int image() {
             image = deed.clone();
-            return deed[7];
+            return deed[6];
         }
 
         int back() {
@@ -1162,7 +1165,7 @@ public final class ModelTest {
                 return STATE;
             }
             deed = image.clone();
-            return deed[7];
+            return deed[6];
         }
 
         // ---- acts, shelves

@@ -837,6 +837,7 @@ public final class PromiseTest {
         due("push: it is over", x.push(), STATE);
         x.mend(0, 9, 0);
         pushByTens();
+        pushTillOverByNow();
         pushWaiting();
     }
 
@@ -848,7 +849,7 @@ public final class PromiseTest {
         }
         x.mend(1, 3, 3);
         x.push();
-        due("push: by tens keeps what was COUNTED", x.led(7), 5);
+        due("push: by tens nothing yet, however it was counted before", x.led(7), 0);
         for (int k = 0; k < 4; k++) {
             x.push();
         }
@@ -862,6 +863,32 @@ public final class PromiseTest {
         x.push();
         due("push: 13 are 9 slowly", x.led(7), STATE);
         due("led(0)", x.led(0), 1);
+    }
+
+    /** Whether a TURN is over is asked at a push alone, by all numbers as they are then. */
+    private static void pushTillOverByNow() {
+        TwentyPushes x = by("1", 30, 4, 4);
+        x.on(1);
+        x.push();
+        x.mend(0, 8, 1);
+        due("push: mending ends no TURN", x.on(1), STATE);
+        x.mend(1, 3, 3);
+        for (int k = 2; k < 10; k++) {
+            x.push();
+            due("push: by tens " + k + " are none", x.led(7), 0);
+            due("push: it is not over", x.on(1), STATE);
+        }
+        x.push();
+        due("push: it is over at ten", x.led(6), STATE);
+        due("led(0)", x.led(0), 1);
+        x.mend(0, 8, 4);
+        x.on(1);
+        x.push();
+        x.push();
+        x.push();
+        x.mend(1, 3, 2);
+        due("push: quickly four are 5", x.push(), 1);
+        due("push: it is over", x.push(), STATE);
     }
 
     private static void pushWaiting() {
@@ -933,6 +960,46 @@ public final class PromiseTest {
         x.afternoon(3600, 1, 0);
         due("led: thoughts are no deeds", x.led(1), 7);
         allDue("led: BAD", BAD, x.led(-1), x.led(8), x.led(LEAST), x.led(MOST));
+        ledCountedByNow();
+    }
+
+    /** COUNTED is one number by the ROUNDS so far and by how the one who counts is BENT when it is asked for. */
+    private static void ledCountedByNow() {
+        TwentyPushes x = by("1", 30, 4, 4, 4);
+        x.on(1);
+        x.mend(1, 3, 3);
+        due("led(7): none yet", x.led(7), 0);
+        x.mend(1, 3, 0);
+        for (int k = 0; k < 13; k++) {
+            x.push();
+        }
+        long[] ways = {13, 9, 16, 10};
+        for (int bent = 3; bent >= 0; bent--) {
+            x.mend(1, 3, bent);
+            due("led(7): by BENT " + bent, x.led(7), ways[bent]);
+        }
+        x.mend(1, 3, 2);
+        x.mend(1, 4, 0);
+        due("led(7): a friend by now", x.led(7), 9);
+        x.undo();
+        due("led(7): no friend any more", x.led(7), 16);
+        x.undo();
+        due("led(7): as it is again", x.led(7), 13);
+        x.redo();
+        due("led(7): quickly again", x.led(7), 16);
+        x.mend(1, 4, 2);
+        x.mend(2, 3, 3);
+        due("led(7): neither another's friend nor another's BENT", x.led(7), 16);
+        x.image();
+        x.mend(1, 3, 3);
+        x.push();
+        due("back", x.back(), 0);
+        due("led(7): an image keeps ROUNDS, not how they are COUNTED", x.led(7), 10);
+        x.off();
+        due("led(7): none is on", x.led(7), STATE);
+        x.on(9);
+        x.push();
+        due("led(7): as it is by nobody", x.led(7), 1);
     }
 
     private static void imageAndBack() {
