@@ -54,6 +54,7 @@ public final class ModelTest {
         private final Deque<Integer> letters = new ArrayDeque<>();
         private final boolean wild;
         private final boolean spoilt;
+        private final boolean lively;
         String told;
         long got, due;
 
@@ -61,6 +62,7 @@ public final class ModelTest {
             this.random = random;
             wild = random.nextInt(10) == 0;
             spoilt = random.nextInt(4) == 0;
+            lively = random.nextInt(3) == 0;
         }
 
         /** Mostly within low .. high, at times just beside, in wild runs anything at all. */
@@ -110,6 +112,10 @@ public final class ModelTest {
                 come();
                 return;
             }
+            if (lively && model.children.size() > 1 && random.nextInt(4) > 0) {
+                deedsAmidMending();
+                return;
+            }
             switch (random.nextInt(6)) {
                 case 0: numbersOrLaw(); break;
                 case 1: turns(); break;
@@ -144,7 +150,7 @@ public final class ModelTest {
                 if (what == 8 && random.nextInt(3) > 0) {
                     v = in(1, 5);
                 }
-                say("mend(" + number + ", " + what + ", " + v + ")", real.mend(number, what, v), model.mend(number, what, v));
+                mend(number, what, v);
             } else if (kind == 5) {
                 int what = in(0, 10);
                 int number = in(0, 8);
@@ -277,6 +283,32 @@ public final class ModelTest {
                 case 8: say("redo()", real.redo(), model.redo()); break;
                 default: say("push()", real.push(), model.push());
             }
+        }
+
+        /** TURNS in deed that go on while the one who counts, and what ends them, is mended. */
+        private void deedsAmidMending() {
+            int counts = model.deed[2];
+            if (model.deed[0] < 0) {
+                int child = random.nextInt(model.children.size());
+                int other = (child + 1 + random.nextInt(model.children.size() - 1)) % model.children.size();
+                int sc = random.nextInt(3) * 100 + child * 10 + (random.nextInt(8) == 0 ? 9 : other);
+                say("on(" + sc + ")", real.on(sc), model.on(sc));
+                return;
+            }
+            switch (random.nextInt(12)) {
+                case 0: mend(counts, 3, in(0, 3)); break;
+                case 1: mend(counts, 4, some(9, 9, model.deed[1], child())); break;
+                case 2: mend(0, 8, some(in(1, 30), in(20, 30))); break;
+                case 3: mend(0, 9, some(0, 0, in(0, 200))); break;
+                case 4: mend(model.deed[1], in(0, 2), in(0, 9)); break;
+                case 5: say("led(7)", real.led(7), model.led(7)); break;
+                case 6: deeds(); break;
+                default: say("push()", real.push(), model.push());
+            }
+        }
+
+        private void mend(int number, int what, int v) {
+            say("mend(" + number + ", " + what + ", " + v + ")", real.mend(number, what, v), model.mend(number, what, v));
         }
 
         private void actsAndShelves() {
