@@ -648,6 +648,13 @@ public final class PromiseTest {
         TwentyPushes z = by("q+1", 1, 4, 4);
         due("held: away, it does not wait", z.held(2 + 1 + 1 + 2, 2), 2);
         due("held: away, it does not wait", z.held(2 + 1 + 1 + 1, 2), 1);
+        due("held: it waits again", z.held(2 + 1 + 1 + 2 + 2 + 2, 2), 3);
+        due("held: it waits again", z.held(2 + 1 + 1 + 2 + 2 + 1, 2), 2);
+        TwentyPushes v = by("q+1", 1, 4, 4, 4);
+        due("held: away, one waits less", v.held(3 + 2 + 2 + 2 + 3, 3), 2);
+        due("held: away, one waits less", v.held(3 + 2 + 2 + 2 + 2, 3), 1);
+        due("held: all wait before its first", v.held(3 + 3, 15), 1);
+        due("held: all wait before its first", v.held(3 + 2, 15), 0);
         TwentyPushes w = by("1", 20, 4, 4, 4);
         w.mend(1, 3, 2);
         due("held: passed over, the one behind it counts", w.held(16 + 20 + 16 + 20 + 16, 3), 1);
