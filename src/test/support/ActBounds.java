@@ -116,6 +116,35 @@ final class ActBounds extends Bounds {
         all(BAD, x.taken(-1, 0), x.taken(6, 0), x.keep(-1, 0), x.keep(6, 0), x.row(-1, 0, 1), x.row(6, 0, 1));
     }
 
+    @Sentence(in = "Terms 5", says = "SHELVES 0 .. 5 each hold")
+    static void noShelfTouchesAnother() {
+        TwentyPushes x = new TwentyPushes();
+        for (int shelf = 0; shelf <= 5; shelf++) {
+            x.row(shelf, 3, 60);
+            x.put(shelf, 0, 10 + shelf);
+            x.put(shelf, 59, 20 + shelf);
+        }
+        for (int shelf = 0; shelf <= 5; shelf++) {
+            is(x.row(shelf, 3, 60), 1);
+            all(0, x.element(shelf, 0), x.element(shelf, 59));
+            x.put(shelf, 0, 30 + shelf);
+            x.put(shelf, 59, 40 + shelf);
+            for (int other = 0; other <= 5; other++) {
+                is(x.element(other, 0), (other <= shelf ? 30 : 10) + other);
+                is(x.element(other, 59), (other <= shelf ? 40 : 20) + other);
+            }
+        }
+        is(x.shift(0, 0, 5, 0, 60), 60);
+        is(x.shift(5, 0, 3, 1, 59), 59);
+        long[] firsts = {30, 31, 32, 33, 34, 30};
+        long[] lasts = {40, 41, 42, 0, 44, 40};
+        for (int shelf = 0; shelf <= 5; shelf++) {
+            is(x.element(shelf, 0), firsts[shelf]);
+            is(x.element(shelf, 59), lasts[shelf]);
+        }
+        is(x.element(3, 1), 30);
+    }
+
     @Sentence(in = "Terms 5", says = "of 0 bytes, 1 shorts, 2 ints, 3 longs, 4 booleans, of 0 .. 60 elements, 0 at first (false)")
     static void rows() {
         TwentyPushes x = new TwentyPushes();

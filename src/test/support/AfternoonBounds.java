@@ -30,6 +30,15 @@ final class AfternoonBounds extends Bounds {
         is(x.longest(9, 0), 4);
     }
 
+    /** 1 counts slowly, so that there are 17 ROUNDS, 2 as it is, so that there are 12. */
+    @Sentence(in = "Terms 2", says = "by which such a TURN lasts longest")
+    static void longestByWhoCounts() {
+        TwentyPushes x = by("r>13&h=1?20;h=2?2;1", 12, 4, 4, 4);
+        x.mend(1, 3, 1);
+        all(1, x.longest(1, 0), x.longest(21, 0), x.longest(101, 0), x.longest(221, 8));
+        all(2, x.longest(2, 0), x.longest(9, 0), x.longest(20, 0), x.longest(29, 0), x.longest(12, 0), x.longest(210, 8));
+    }
+
     @Sentence(in = "Terms 2", says = "COUNTER: of all other CHILDREN (and 9) that by whom it lasts longest (of like ones the least).")
     static void counter() {
         TwentyPushes x = by("1", 20, 4);
@@ -245,6 +254,20 @@ final class AfternoonBounds extends Bounds {
         is(x.each(60), 20);
         is(x.each(2), NOT);
         is(x.of(0, 8), 7);
+    }
+
+    /** By tens one PUSH needs ten ROUNDS; none at all would need but one. */
+    @Sentence(in = "Terms 2", says = "EACH: the greatest PUSHES (1 .. 30)")
+    static void eachByTens() {
+        TwentyPushes x = by("1", 7, 4, 4);
+        x.mend(0, 3, 3);
+        x.mend(1, 3, 3);
+        is(x.each(20), 10);
+        is(x.each(39), 10);
+        is(x.each(40), 20);
+        is(x.each(60), 30);
+        is(x.each(19), NOT);
+        is(x.each(2), NOT);
     }
 
     @Sentence(in = "Terms 2", says = "ORDER: of all orders of one SWING's QUEUE (5 at most, else STATE)")

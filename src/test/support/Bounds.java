@@ -48,6 +48,19 @@ abstract class Bounds {
         return "?";
     }
 
+    /** A number of mend() from low to high, first at first; what is refused leaves it as it is. */
+    static void range(TwentyPushes x, int number, int what, int first, int low, int high) {
+        is(x.of(number, what), first);
+        is(x.mend(number, what, low), first);
+        all(BAD, x.mend(number, what, low - 1), x.mend(number, what, LEAST));
+        is(x.of(number, what), low);
+        is(x.mend(number, what, high), low);
+        all(BAD, x.mend(number, what, high + 1), x.mend(number, what, MOST));
+        is(x.mend(number, what, low), high);
+        is(x.mend(number, what, high), low);
+        is(x.of(number, what), high);
+    }
+
     // ---- objects to ask
 
     /** So many CHILDREN of WEIGHT 4 with LEGS 1 in QUEUE 0. */

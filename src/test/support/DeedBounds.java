@@ -220,6 +220,27 @@ final class DeedBounds extends Bounds {
         is(x.of(0, 8), 1);
     }
 
+    /** SECONDS and TIRED by turns, so that each CHANGE that is kept is seen to be another one. */
+    @Sentence(in = "Terms 4", says = "40 at most are kept")
+    static void theLatestFortyAreKept() {
+        TwentyPushes x = new TwentyPushes();
+        for (int k = 0; k < 45; k++) {
+            x.mend(0, 9 + k % 2, k % 2 == 0 ? 100 + k : 1 + k % 12);
+        }
+        for (int k = 44; k >= 5; k--) {
+            is(x.of(0, 9 + k % 2), k % 2 == 0 ? 100 + k : 1 + k % 12);
+            is(x.undo(), k - 5);
+        }
+        is(x.of(0, 9), 104);
+        is(x.of(0, 10), 4);
+        is(x.undo(), STATE);
+        for (int k = 5; k < 45; k++) {
+            is(x.redo(), 44 - k);
+            is(x.of(0, 9 + k % 2), k % 2 == 0 ? 100 + k : 1 + k % 12);
+        }
+        is(x.redo(), STATE);
+    }
+
     @Sentence(in = "Terms 4", says = "deeds are none")
     static void deedsAreNoChanges() {
         TwentyPushes x = by("1", 3, 4);
@@ -276,5 +297,84 @@ final class DeedBounds extends Bounds {
             is(x.led(4), 8);
         }
         is(x.of(0, 8), 4);
+    }
+
+    @Sentence(in = "Terms 4", says = "AN IMAGE keeps the TURN in deed")
+    static void imageOfSeconds() {
+        TwentyPushes x = by("5", 9, 4);
+        x.mend(0, 9, 20);
+        x.on(9);
+        pushes(x, 2);
+        x.image();
+        x.off();
+        x.on(9);
+        is(x.back(), 0);
+        is(x.push(), 5);
+        is(x.led(6), 3);
+        is(x.push(), 5);
+        is(x.led(6), STATE);
+        is(x.led(0), 1);
+        // nobody was on as it was kept, so nobody is on
+        x.image();
+        x.on(9);
+        is(x.back(), 1);
+        is(x.led(6), STATE);
+        is(x.push(), STATE);
+    }
+
+    @Sentence(in = "Terms 4", says = "what LED tells.")
+    static void imageOfTheGreatestHeight() {
+        TwentyPushes x = by("1", 2, 4, 1);
+        x.image();
+        x.on(9);
+        x.push();
+        x.off();
+        is(x.back(), 0);
+        is(x.led(4), 0);
+        is(x.led(5), NOT);
+        x.on(9);
+        x.push();
+        x.image();
+        x.off();
+        x.on(19);
+        x.push();
+        is(x.led(4), 2);
+        is(x.led(5), 1);
+        is(x.back(), 0);
+        is(x.led(4), 1);
+        is(x.led(5), 0);
+    }
+
+    /** All numbers, the QUEUE as well, are as they are at the push. */
+    @Sentence(in = "Terms 1", says = "q how many wait in that QUEUE")
+    static void waitingInDeed() {
+        TwentyPushes x = by("q+1", 30, 4, 4, 4);
+        x.on(9);
+        is(x.push(), 3);
+        x.mend(2, 5, 1);
+        is(x.push(), 2);
+        x.mend(1, 5, 3);
+        is(x.push(), 1);
+        x.mend(0, 5, 1);
+        is(x.push(), 1);
+        x.mend(1, 5, 0);
+        is(x.push(), 2);
+        x.off();
+        // one of another QUEUE, on SWING 1, and one of none, on SWING 2
+        x.on(119);
+        is(x.push(), 3);
+        x.off();
+        x.mend(1, 5, 3);
+        x.on(219);
+        is(x.push(), 1);
+        x.off();
+        for (int child = 0; child < 3; child++) {
+            x.mend(child, 5, 2);
+        }
+        for (int k = 3; k < 9; k++) {
+            x.child(40, 2);
+        }
+        x.on(289);
+        is(x.push(), 9);
     }
 }

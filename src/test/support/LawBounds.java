@@ -25,6 +25,8 @@ final class LawBounds extends Bounds {
         is(worth(longText(119)), 20);
         is(worth(longText(120)), 20);
         is(worth(longText(118) + "-0"), 20);
+        // each byte a sign of its own
+        is(worth("-" + longText(119)), 20);
         TwentyPushes x = with(1);
         feed(x, longText(118) + "*0");
         all(FULL, x.feed('+'), x.feed('9'));

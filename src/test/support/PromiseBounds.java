@@ -185,6 +185,34 @@ final class PromiseBounds extends Bounds {
         }
     }
 
+    /** All that may be told: SWINGS of LENGTH 1, 2, 3; who counts does so by the rest of its number by 4, 9 as it is. */
+    @Sentence(in = "Calls", says = "100 times the SWING, 10 times the CHILD, and who counts, 9: as it is; not itself")
+    static void eachOneTold() {
+        int[] rounds = {12, 17, 10, 20};
+        for (int swing = 0; swing <= 2; swing++) {
+            TwentyPushes x = by("s", 12, 1, 2, 3, 4, 5, 6, 7, 8, 9);
+            for (int k = 0; k < 9; k++) {
+                x.mend(k, 3, k % 4);
+                x.mend(k, 2, k);
+            }
+            for (int k = 0; k <= 2; k++) {
+                x.mend(k, 6, k + 1);
+            }
+            for (int child = 0; child < 9; child++) {
+                for (int counts = 0; counts <= 9; counts++) {
+                    int sc = 100 * swing + 10 * child + counts;
+                    int due = rounds[counts < 9 ? counts % 4 : 0];
+                    is(x.turn(sc, 0, 1), child == counts ? BAD : due * (swing + 1));
+                    is(x.unfair(sc, 8), child == counts ? VOID : due - 12);
+                    is(x.on(sc), child == counts ? BAD : child);
+                    is(x.off(), child == counts ? STATE : 0);
+                }
+                // up to its CAP go those that rise at all
+                is(x.turn(100 * swing + 10 * child + 9, 0, 2), child < 5 ? child : 0);
+            }
+        }
+    }
+
     @Sentence(in = "Promise 8", says = "A TURN, q waiting (0 .. 8): ROUNDS (what 0), seconds (1), the greatest HEIGHT (2), COUNTED (3). BAD.")
     static void turn() {
         TwentyPushes x = by("q+1", 7, 1, 4);

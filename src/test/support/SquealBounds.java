@@ -1,3 +1,5 @@
+import java.util.Arrays;
+
 /** Terms 3: HELD, SQUEALS, UNFAIR, TRADE, DRAWN. */
 final class SquealBounds extends Bounds {
     /** Who left it does not wait in it: q is one less till it is back. */
@@ -50,6 +52,35 @@ final class SquealBounds extends Bounds {
         x.child(40, 1);
         is(x.held(3600, 31), 1);
         is(x.held(3600, 30), 360);
+        TwentyPushes z = by("1", 1, 4);
+        is(z.held(3600, 0), 3600);
+        is(z.held(3600, 1), 1);
+    }
+
+    /** 0 counts as it is, 1 slowly, 2 quickly: 8, 11, 7 ROUNDS. */
+    @Sentence(in = "Terms 3", says = "is passed over, its place kept")
+    static void heldCountedByTheNext() {
+        TwentyPushes x = by("1", 8, 4, 4, 4);
+        x.mend(1, 3, 1);
+        x.mend(2, 3, 2);
+        // 0 by 1, 1 by 2, 2 by 1, 1 by 2, 0 by 2, 2 by 1, 1 by 0, 0 by 2
+        int[] ends = {11, 18, 29, 36, 43, 54, 62, 69};
+        int[] been = {1, 1, 1, 1, 2, 2, 2, 3};
+        for (int k = 0; k < ends.length; k++) {
+            is(x.held(ends[k], 3), been[k]);
+            is(x.held(ends[k] - 1, 3), k == 0 ? 0 : been[k - 1]);
+        }
+    }
+
+    @Sentence(in = "Terms 1", says = "nobody waits: as it is")
+    static void heldAlone() {
+        TwentyPushes x = by("1", 8, 4, 4);
+        x.mend(1, 3, 2);
+        is(x.held(7, 0), 1);
+        is(x.held(6, 0), 0);
+        x.mend(1, 5, 1);
+        is(x.held(8, 0), 1);
+        is(x.held(7, 0), 0);
     }
 
     @Sentence(in = "Terms 3", says = "the first that is not so (one that lacks, or is too much, too); NOT.")
@@ -70,6 +101,40 @@ final class SquealBounds extends Bounds {
             y.put(0, k, 1);
         }
         is(y.judge(0, 1, 0), 44);
+        // what is too much is not so, though a longer TURN had it
+        y.mend(0, 8, 3);
+        lay(y, 0, 1, 1, 1, 1, 1);
+        is(y.judge(0, 9, 0), 3);
+        is(y.who(0, 9, 0), 0);
+        is(y.sure(0, 19, 0), 0);
+    }
+
+    /** SWINGS of LENGTH 1, 2, 3; 0 counts as it is, 1 quickly, 2 slowly: 5, 4, 7 ROUNDS. */
+    @Sentence(in = "Terms 3", says = "JUDGED of a TURN (SWING, CHILD, who counts, q)")
+    static void judgedOfThatTurn() {
+        TwentyPushes x = by("s", 5, 4, 4, 4);
+        x.mend(1, 3, 2);
+        x.mend(2, 3, 1);
+        int[] rounds = {5, 4, 7, 5};
+        for (int swing = 0; swing <= 2; swing++) {
+            x.mend(swing, 6, swing + 1);
+            for (int counts = 0; counts <= 3; counts++) {
+                int[] row = new int[rounds[counts]];
+                Arrays.fill(row, swing + 1);
+                lay(x, 0, row);
+                for (int child = 0; child <= 2; child++) {
+                    if (child != counts) {
+                        int sc = 100 * swing + 10 * child + (counts < 3 ? counts : 9);
+                        is(x.judge(0, sc, 0), NOT);
+                        is(x.judge(0, (sc + 100) % 300, 0), 0);
+                        is(x.sure(0, sc, 0), rounds[counts] == 5 ? child == 0 ? 512 : 512 + 1 : 1 << counts);
+                    }
+                }
+                int all = counts < 3 ? 7 - (1 << counts) : 7;
+                is(x.who(0, 10 * swing + (counts < 3 ? counts : 9), 0), all);
+                is(x.who(0, 10 * ((swing + 1) % 3) + (counts < 3 ? counts : 9), 0), 0);
+            }
+        }
     }
 
     @Sentence(in = "Terms 3", says = "WHO: which CHILDREN (bits) may have had that TURN (by who counts as told), on a SWING")
@@ -229,6 +294,7 @@ final class SquealBounds extends Bounds {
         }
         is(x.drawn(5, 10, 3600, -1), 0);
         all(BAD, x.mend(0, 10, -1), x.mend(0, 10, 13));
+        range(new TwentyPushes(), 0, 10, 0, 0, 12);
     }
 
     /** By SEED 0 the draws are 0 6 3 4 6 4 6 3 9 3 11 8. */

@@ -1,16 +1,5 @@
 /** Terms 1: SWINGS, CHILDREN, a ROUND and THE LAW. */
 final class SwingsBounds extends Bounds {
-    /** A number of mend() from low to high, first at first; what is refused leaves it as it is. */
-    private static void range(TwentyPushes x, int number, int what, int first, int low, int high) {
-        is(x.of(number, what), first);
-        is(x.mend(number, what, low), first);
-        all(BAD, x.mend(number, what, low - 1), x.mend(number, what, LEAST));
-        is(x.of(number, what), low);
-        is(x.mend(number, what, high), low);
-        all(BAD, x.mend(number, what, high + 1), x.mend(number, what, MOST));
-        is(x.of(number, what), high);
-    }
-
     @Sentence(in = "Terms 1", says = "SWINGS 0 .. 2")
     static void threeSwings() {
         TwentyPushes x = with(1);
@@ -43,6 +32,42 @@ final class SwingsBounds extends Bounds {
     }
 
     /** What it is at first is never seen: who comes tells its own. */
+    /** As full as a QUEUE can be. */
+    @Sentence(in = "Terms 1", says = "CHILDREN 0 .. 8, as they come")
+    static void nineInOneQueue() {
+        TwentyPushes x = by("w", 1, 1, 2, 3, 4, 5, 6, 7, 8, 9);
+        is(x.been(45, 0), 45);
+        is(x.been(45, -1), 0);
+        is(x.been(44, -1), 256);
+        is(x.afternoon(45, 8, 1), 36);
+        is(x.afternoon(46, 0, 0), 2);
+        is(x.join(3600, 8, 0), 1);
+        is(x.join(3600, 0, 0), 0);
+        is(x.each(1350), 30);
+        is(x.each(1349), 29);
+        is(x.each(45), 1);
+        is(x.each(44), NOT);
+        all(STATE, x.order(0, -1), x.order(0, 8));
+        is(x.order(0, 9), BAD);
+        is(x.trade(3600, 80), 36);
+        is(x.trade(3600, 8), -44);
+        is(x.trade(3600, 87), 8);
+        is(x.trade(3600, 78), -9);
+        is(x.drawn(1, 10, 45, 8), 10);
+        is(x.drawn(1, 1, 45, -1), 9);
+        TwentyPushes y = by("1", 10, 4, 4, 4, 4, 4, 4, 4, 4, 4);
+        is(y.held(110, 9), 2);
+        is(y.held(109, 9), 1);
+        is(y.held(190, 89), 2);
+        is(y.held(189, 89), 1);
+        is(y.held(89, 89), 0);
+        enact(y, "q+1");
+        y.mend(0, 8, 1);
+        // 9 as all are there, 8 as 0 is away
+        is(y.held(9 + 3 * 8 + 5 * 9 + 9, 3), 2);
+        is(y.held(9 + 3 * 8 + 5 * 9 + 8, 3), 1);
+    }
+
     @Sentence(in = "Terms 1", says = "WEIGHT (1 .. 9; 4 at first)")
     static void weight() {
         TwentyPushes x = with(1);
