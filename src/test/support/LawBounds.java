@@ -59,6 +59,10 @@ final class LawBounds extends Bounds {
         is(worth("0?5;6"), 6);
         is(worth("-1?5;6"), 5);
         is(worth("h?5;6"), 5);
+        is(worth("0|h?7;8"), 7);
+        is(worth("0|r?7;8"), 8);
+        is(worth("1?0|9"), 1);
+        is(worth("1?h=2&w=4|q;8"), 1);
         fault("1?2?3", 3);
         fault("?5", 0);
         fault("1?", 2);
@@ -168,6 +172,13 @@ final class LawBounds extends Bounds {
         fault("((((((-7))))))", 6);
         fault("((((((!", 6);
         is(worth("((((((7-1))))))"), 6);
+        // in each E of each LINE anew
+        is(worth("((((((1))))))?((((((7))))));8"), 7);
+        is(worth("------r?1;------9"), 9);
+        fault("1?(((((((7)))))))", 8);
+        fault("1?-------7", 8);
+        fault("-------1?7", 6);
+        fault("1;-------7", 8);
         is(worth("(1)+(1)+(1)+(1)+(1)+(1)+(1)+(1)"), 8);
         is(worth("-1--1--1--1--1--1--1--1"), 6);
         is(worth("((((((1))))))+((((((1))))))"), 2);
