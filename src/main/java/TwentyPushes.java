@@ -11,6 +11,8 @@ public final class TwentyPushes {
     private static final int SLOWLY = 1, QUICKLY = 2, BY_TENS = 3;
     private static final int ROUNDS_MOST = 60, WAITING_MOST = 8, BELL_MOST = 3600, CAP_MOST = 9, PUSHES_MOST = 30;
     private static final int BYTES = 0;
+    // Long.MIN_VALUE by its own bit: of Long the language lists the functions alone
+    private static final long NO_ELEMENT = 1L << 63;
 
     private final Numbers numbers;
     private final Changes changes;
@@ -492,7 +494,7 @@ public final class TwentyPushes {
     }
 
     public long element(int shelf, int i) {
-        return shelves.refusalAt(shelf, i) != 0 ? Long.MIN_VALUE : shelves.elementAt(shelf, i);
+        return shelves.refusalAt(shelf, i) != 0 ? NO_ELEMENT : shelves.elementAt(shelf, i);
     }
 
     public int shift(int shelf, int i, int other, int j, int n) {
@@ -1308,11 +1310,10 @@ public final class TwentyPushes {
 
         /** By the table of how long each lasts if another counts, which the QUEUE has filled. */
         void seek() {
-            least = Integer.MAX_VALUE;
             boolean more = true;
             for (int k = 0; k < ORDERS && more; k++) {
                 int waits = waitsTogether();
-                if (waits < least) {
+                if (k == 0 || waits < least) {
                     least = waits;
                     System.arraycopy(tried, 0, found, 0, size);
                 }

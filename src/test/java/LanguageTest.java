@@ -9,6 +9,7 @@ import java.util.ArrayList;
 import java.util.List;
 import java.util.Set;
 import java.util.TreeSet;
+import java.util.regex.Pattern;
 
 /** The rules of LANGUAGE.md that can be seen in the text and in the class, and the document's face. */
 public final class LanguageTest {
@@ -23,6 +24,13 @@ public final class LanguageTest {
         "int shift(int,int,int,int,int)", "int taken(int,int)", "int count(int)"};
     private static final String[] FORBIDDEN = {"throw", "throws", "try", "catch", "synchronized", "assert", "Exact", "->", "::",
         "@", "var ", "System.out", "Object", "Thread", "Random", "static {", "protected", "volatile", "float", "double"};
+
+    /** What rule 4 lists of the library's own names; of its constants (MAX_VALUE and the like) it lists none. */
+    private static final Pattern LIBRARY = Pattern.compile("(?<![\\w.])(Arrays|Boolean|Byte|Character|Double|Float|Integer|List|Long|Math|Short"
+            + "|String|System)\\.(\\w+)");
+    private static final Set<String> LISTED = Set.of("Arrays.copyOf", "Arrays.copyOfRange", "Arrays.fill", "Integer.bitCount",
+            "Integer.compare", "Integer.max", "Integer.min", "List.of", "Long.bitCount", "Long.compare", "Long.max", "Long.min",
+            "Math.abs", "Math.floorDiv", "Math.floorMod", "Math.max", "Math.min", "System.arraycopy");
 
     private static int wrong = 0;
 
@@ -57,10 +65,13 @@ public final class LanguageTest {
         for (String line : lines) {
             String code = code(line);
             for (String word : FORBIDDEN) {
-                String pattern = word.matches("\\w+") ? ".*\\b" + word + "\\b.*" : ".*" + java.util.regex.Pattern.quote(word) + ".*";
+                String pattern = word.matches("\\w+") ? ".*\\b" + word + "\\b.*" : ".*" + Pattern.quote(word) + ".*";
                 hold(!code.matches(pattern), "rule 6: " + line);
             }
             hold(!code.startsWith("import") || code.equals("import java.util.Arrays;"), "rule 4: " + line);
+            if (!code.startsWith("import")) {
+                hold(LIBRARY.matcher(code).results().allMatch(m -> LISTED.contains(m.group())), "rule 4: " + line);
+            }
             hold(line.chars().allMatch(c -> c >= 1 && c <= 127), "rule 4: a sign beyond 127: " + line);
         }
     }
